@@ -305,7 +305,6 @@ public final class OverflowRows {
         if (key < 0 || key >= KEYS) {
             return BAD_VALUE;
         }
-        // Fewer letters are not always easier: a longer head can find another way. So each is tried.
         for (int letters = LETTERS; letters >= 0; letters--) {
             trial.copyFrom(now);
             if (trial.layRow(key, letters) != NO) {

@@ -4,6 +4,11 @@ public final class ModelTest {
     private static final int CALLS = 512;
     private static final Check check = new Check();
 
+    // Few long rows, many short ones, and some that crowd the pages, so that heads move and come home.
+    private static final int[] KEYS = {8, 14, 45, 24, 30, 12};
+    private static final int[] SHORTEST = {0, 0, 0, 0, 0, 25};
+    private static final int[] LONGEST = {40, 40, 12, 20, 16, 40};
+
     private final Model model = new Model();
     private final OverflowRows x = new OverflowRows();
     private final int run;
@@ -42,15 +47,14 @@ public final class ModelTest {
         compareAll();
     }
 
-    /** Small runs of keys make rows meet again, large ones fill all 30. */
     private int someKey() {
-        int keys = run % 3 == 0 ? 8 : run % 3 == 1 ? 14 : 45;
-        return below(40) == 0 ? below(104) - 2 : below(keys);
+        return below(40) == 0 ? below(104) - 2 : below(KEYS[run % KEYS.length]);
     }
 
     private String someRow() {
-        int longest = run % 3 == 2 ? 12 : 40;
-        int letters = below(5) == 0 ? 40 : below(longest + 1);
+        int shortest = SHORTEST[run % SHORTEST.length];
+        int longest = LONGEST[run % LONGEST.length];
+        int letters = below(25) < longest / 8 ? longest : shortest + below(longest - shortest + 1);
         StringBuilder text = new StringBuilder().append(Math.min(99, Math.max(0, someKey()))).append('=');
         for (int i = 0; i < letters; i++) {
             text.append((char) ('a' + below(26)));
@@ -77,7 +81,7 @@ public final class ModelTest {
         switch (below(14)) {
             case 0: {
                 int setting = below(9) == 0 ? below(5) - 1 : below(2);
-                int value = below(19) - 1;
+                int value = run % KEYS.length == 3 || run % KEYS.length == 4 ? below(7) + 10 : below(19) - 1;
                 due("set(" + setting + ", " + value + ")", x.set(setting, value), model.set(setting, value));
                 return 1;
             }
@@ -92,7 +96,7 @@ public final class ModelTest {
                 due("delete(" + key + ")", x.delete(key), model.delete(key));
                 return 1;
             case 10:
-                if (below(3) == 0) {
+                if (below(6) == 0) {
                     due("pack()", x.pack(), model.pack());
                 }
                 return 1;
@@ -106,7 +110,7 @@ public final class ModelTest {
             }
             default: {
                 int place = below(12) == 0 ? below(4) - 1 : below(2);
-                if (below(3) == 0) {
+                if (below(6) == 0) {
                     due("restore(" + place + ")", x.restore(place), model.restore(place));
                 }
                 return 1;
