@@ -83,6 +83,7 @@ public final class LooksTest {
         row(x, 0, 40, 0, 0, 0, 0, 0, 16, 24, 2, 66);
         Check.write(x, Check.row(2, 12));
         row(x, 2, 12, 1, 13, 1, 13, 0, 12, 0, 1, 14);
+        due("row: greatest cost, of the first", x.count(7), 2);
         OverflowRows y = new OverflowRows();
         Check.write(y, Check.row(1, 38) + ";" + Check.row(2, 30));
         // 8 + 3 * 9 = 35 on page 0; its 8 letters on page 1; the head of 2 on page 1, too.

@@ -2,6 +2,8 @@
 public final class ModelTest {
     private static final int RUNS = 300;
     private static final int CALLS = 512;
+    private static final int[] WILD = {Integer.MIN_VALUE, Integer.MIN_VALUE + 1, -65536, -1, 0, 1, 2, 9, 10, 39, 40,
+        99, 100, 255, 256, 65536, Integer.MAX_VALUE - 1, Integer.MAX_VALUE};
     private static final Check check = new Check();
 
     // Few long rows, many short ones, and some that crowd the pages, so that heads move and come home.
@@ -42,6 +44,9 @@ public final class ModelTest {
             calls += change();
             for (int i = 0; i < 3; i++) {
                 calls += look();
+            }
+            if (below(8) == 0) {
+                calls += wildLook();
             }
         }
         compareAll();
@@ -189,6 +194,28 @@ public final class ModelTest {
                 due("most(" + key + ")", x.most(key), model.most(key));
                 return 1;
         }
+    }
+
+    private int wild() {
+        return WILD[below(WILD.length)];
+    }
+
+    /** Arguments from far outside must be answered, too. */
+    private int wildLook() {
+        int a = wild();
+        int b = wild();
+        int c = wild();
+        String arguments = "(" + a + ", " + b + ", " + c + ")";
+        due("row" + arguments, x.row(a, b), model.row(a, b));
+        due("letter" + arguments, x.letter(a, b), model.letter(a, b));
+        due("piece" + arguments, x.piece(a, b, c), model.piece(a, b, c));
+        due("page" + arguments, x.page(a, b), model.page(a, b));
+        due("slot" + arguments, x.slot(a, b, c), model.slot(a, b, c));
+        due("count" + arguments, x.count(a), model.count(a));
+        due("key" + arguments, x.key(a), model.key(a));
+        due("ifPacked" + arguments, x.ifPacked(a, b), model.ifPacked(a, b));
+        due("most" + arguments, x.most(a), model.most(a));
+        return 9;
     }
 
     private void compareAll() {
