@@ -114,17 +114,8 @@ public final class ChangesTest {
         due("write: its slot", y.row(9, 4), 1);
     }
 
-    /** Thirty empty rows, keys 0 to 29. */
-    private static OverflowRows thirty() {
-        OverflowRows x = new OverflowRows();
-        for (int key = 0; key < 30; key++) {
-            Check.write(x, key + "=");
-        }
-        return x;
-    }
-
     private static void promise3Stops() {
-        OverflowRows x = thirty();
+        OverflowRows x = Made.thirty();
         due("30 rows", x.count(0), 30);
         due("write: a 31st", Check.write(x, "50=a;0=a"), 0);
         due("write: none after it", x.row(0, 0), 0);
@@ -139,27 +130,8 @@ public final class ChangesTest {
         due("write: rows", x.count(0), 30);
     }
 
-    /** Twenty rows of 16 letters, 0 to 19, two on each page, which leave 4 cells each. */
-    private static OverflowRows twenty() {
-        OverflowRows x = new OverflowRows();
-        x.set(0, 16);
-        for (int key = 0; key < 20; key++) {
-            Check.write(x, Check.row(key, 16));
-        }
-        return x;
-    }
-
-    /** No cell is free: to the twenty come ten rows of 2 letters, 20 to 29, one on each page. */
-    private static OverflowRows full() {
-        OverflowRows x = twenty();
-        for (int key = 20; key < 30; key++) {
-            Check.write(x, Check.row(key, 2));
-        }
-        return x;
-    }
-
     private static void promise3CannotBePlaced() {
-        OverflowRows x = twenty();
+        OverflowRows x = Made.twenty();
         due("twenty: free", x.count(4), 40);
         due("write: head cannot be placed", Check.write(x, "40=abc"), 0);
         due("write: head just fits", Check.write(x, "40=ab"), 1);
@@ -198,7 +170,7 @@ public final class ChangesTest {
         due("append: the first stays", x.letter(5, 1), 1);
         due("append: recorded", x.count(11), 3);
 
-        OverflowRows y = full();
+        OverflowRows y = Made.full();
         due("full: free", y.count(4), 0);
         due("append: no piece", y.append(0, 0), NOT_POSSIBLE);
         due("append: no head", y.append(20, 0), NOT_POSSIBLE);
@@ -209,37 +181,24 @@ public final class ChangesTest {
         due("append: head there", y.slot(0, 2, 0), 1);
     }
 
-    private static void where(OverflowRows x, int key, int homePage, int homeSlot, int headPage, int headSlot) {
-        due("home page of " + key, x.row(key, 1), homePage);
-        due("home slot of " + key, x.row(key, 2), homeSlot);
-        due("head page of " + key, x.row(key, 3), headPage);
-        due("head slot of " + key, x.row(key, 4), headSlot);
-        boolean moved = homePage != headPage || homeSlot != headSlot;
-        due("moved " + key, x.row(key, 5), moved ? 1 : 0);
-        due("thing at home of " + key, x.slot(homePage, homeSlot, 0), moved ? 3 : 1);
-        due("key at home of " + key, x.slot(homePage, homeSlot, 1), key);
-        due("head of " + key, x.slot(headPage, headSlot, 0), 1);
-        due("key at head of " + key, x.slot(headPage, headSlot, 1), key);
-    }
-
     private static void promise4Moves() {
-        OverflowRows x = full();
+        OverflowRows x = Made.full();
         x.delete(19);
         due("append: moves", x.append(20, 2), 3);
-        where(x, 20, 0, 2, 9, 1);
+        check.where(x, 20, 0, 2, 9, 1);
         due("append: note's cell", x.slot(0, 2, 2), 1);
         due("append: free at home", x.page(0, 0), 3);
         due("append: free there", x.page(9, 0), 13);
         due("append: same slot", x.append(20, 3), 4);
-        where(x, 20, 0, 2, 9, 1);
+        check.where(x, 20, 0, 2, 9, 1);
         due("append: free there then", x.page(9, 0), 12);
         Check.write(x, Check.row(19, 10));
-        where(x, 19, 9, 3, 9, 3);
+        check.where(x, 19, 9, 3, 9, 3);
         due("append: nowhere", x.append(20, 4), NOT_POSSIBLE);
-        where(x, 20, 0, 2, 9, 1);
+        check.where(x, 20, 0, 2, 9, 1);
         x.delete(0);
         due("append: home", x.append(20, 4), 5);
-        where(x, 20, 0, 2, 0, 2);
+        check.where(x, 20, 0, 2, 0, 2);
         due("append: note gone", x.count(2), 0);
         due("append: free at home then", x.page(0, 0), 15);
         due("append: gap", x.slot(9, 1, 0), 0);
@@ -254,21 +213,21 @@ public final class ChangesTest {
         Check.write(x, Check.row(2, 16));
         Check.write(x, Check.row(3, 2) + ";" + Check.row(4, 16));
         x.append(3, 2);
-        where(x, 3, 0, 2, 1, 1);
+        check.where(x, 3, 0, 2, 1, 1);
         Check.write(x, Check.row(5, 13));
         x.append(3, 3);
         x.append(3, 4);
-        where(x, 3, 0, 2, 1, 1);
+        check.where(x, 3, 0, 2, 1, 1);
         due("crowded: page 1", x.page(1, 0), 0);
         x.append(3, 5);
-        where(x, 3, 0, 2, 2, 0);
+        check.where(x, 3, 0, 2, 2, 0);
         due("crowded: gap on page 1", x.page(1, 5), 1);
         due("crowded: note stays", x.count(2), 1);
         x.delete(2);
         x.append(3, 6);
-        where(x, 3, 0, 2, 2, 0);
+        check.where(x, 3, 0, 2, 2, 0);
         Check.write(x, Check.row(6, lettersAtHome));
-        where(x, 6, 0, 1, 0, 1);
+        check.where(x, 6, 0, 1, 0, 1);
         while (x.page(2, 0) > 0) {
             Check.write(x, x.page(2, 0) > 18 ? Check.row(7, 16) : Check.row(8, x.page(2, 0) - 2));
         }
@@ -279,7 +238,7 @@ public final class ChangesTest {
         OverflowRows x = crowded(10);
         due("home: free with the note", x.page(0, 0), 9);
         due("home: just without the note", x.append(3, 7), 8);
-        where(x, 3, 0, 2, 0, 2);
+        check.where(x, 3, 0, 2, 0, 2);
         due("home: full", x.page(0, 0), 0);
         due("home: no note", x.page(0, 4), 0);
         due("home: gap", x.slot(2, 0, 0), 0);
@@ -287,7 +246,7 @@ public final class ChangesTest {
         OverflowRows y = crowded(11);
         due("no home: free with the note", y.page(0, 0), 8);
         due("no home: a cell too few", y.append(3, 7), 8);
-        where(y, 3, 0, 2, 3, 0);
+        check.where(y, 3, 0, 2, 3, 0);
         due("no home: note stays", y.page(0, 0), 8);
         due("no home: cells", y.row(3, 9), 11);
     }
@@ -314,7 +273,7 @@ public final class ChangesTest {
         Check.write(x, "8=z");
         due("delete: a new home", x.row(8, 2), 0);
 
-        OverflowRows y = full();
+        OverflowRows y = Made.full();
         y.delete(19);
         y.append(20, 2);
         due("delete: with the note", y.delete(20), 6);
@@ -338,14 +297,14 @@ public final class ChangesTest {
         due("pack: slots", x.page(0, 1), 5);
         due("pack: letters stay", x.letter(3, 1), 24);
 
-        OverflowRows y = full();
+        OverflowRows y = Made.full();
         y.delete(19);
         y.append(20, 2);
         due("pack: all pages", y.pack(), 10);
         due("pack: no notes", y.count(2), 0);
-        where(y, 20, 9, 1, 9, 1);
+        check.where(y, 20, 9, 1, 9, 1);
         due("pack: three letters", y.row(20, 0), 3);
-        where(y, 21, 0, 2, 0, 2);
+        check.where(y, 21, 0, 2, 0, 2);
         for (int key = 0; key < 4; key++) {
             y.delete(key);
         }
@@ -412,7 +371,7 @@ public final class ChangesTest {
     }
 
     private static void promise20WhatIsRecorded() {
-        OverflowRows x = thirty();
+        OverflowRows x = Made.thirty();
         for (int i = 0; i < 6; i++) {
             x.undo();
         }

@@ -21,30 +21,6 @@ public final class LooksTest {
         check.due(call, got, want);
     }
 
-    private static void row(OverflowRows x, int key, int... answers) {
-        for (int what = 0; what < answers.length; what++) {
-            due("row(" + key + ", " + what + ")", x.row(key, what), answers[what]);
-        }
-    }
-
-    private static void page(OverflowRows x, int page, int... answers) {
-        for (int what = 0; what < answers.length; what++) {
-            due("page(" + page + ", " + what + ")", x.page(page, what), answers[what]);
-        }
-    }
-
-    private static void slot(OverflowRows x, int page, int slot, int... answers) {
-        for (int what = 0; what < answers.length; what++) {
-            due("slot(" + page + ", " + slot + ", " + what + ")", x.slot(page, slot, what), answers[what]);
-        }
-    }
-
-    private static void counts(OverflowRows x, int... answers) {
-        for (int what = 0; what < answers.length; what++) {
-            due("count(" + what + ")", x.count(what), answers[what]);
-        }
-    }
-
     /** Row 3 is at home in (0, 2), its head of 3 letters is in (1, 1), and a piece is in (0, 3). */
     private static OverflowRows moved() {
         OverflowRows x = new OverflowRows();
@@ -61,9 +37,9 @@ public final class LooksTest {
     private static void promise7() {
         OverflowRows x = new OverflowRows();
         Check.write(x, "5=abc;7=" + Check.letters(20) + ";8=");
-        row(x, 5, 3, 0, 0, 0, 0, 0, 3, 0, 1, 5);
-        row(x, 7, 20, 0, 1, 0, 1, 0, 6, 2, 1, 24);
-        row(x, 8, 0, 0, 4, 0, 4, 0, 0, 0, 1, 2);
+        check.row(x, 5, 3, 0, 0, 0, 0, 0, 3, 0, 1, 5);
+        check.row(x, 7, 20, 0, 1, 0, 1, 0, 6, 2, 1, 24);
+        check.row(x, 8, 0, 0, 4, 0, 4, 0, 0, 0, 1, 2);
         due("row: no row first", x.row(6, 99), NO_SUCH);
         due("row: key -1", x.row(-1, 0), NO_SUCH);
         due("row: key 100", x.row(100, 0), NO_SUCH);
@@ -75,24 +51,24 @@ public final class LooksTest {
     }
 
     private static void promise7Costs() {
-        row(moved(), 3, 4, 0, 2, 1, 1, 1, 3, 1, 3, 8);
+        check.row(moved(), 3, 4, 0, 2, 1, 1, 1, 3, 1, 3, 8);
         OverflowRows x = new OverflowRows();
         x.set(0, 16);
         x.set(1, 1);
         Check.write(x, Check.row(0, 40));
-        row(x, 0, 40, 0, 0, 0, 0, 0, 16, 24, 2, 66);
+        check.row(x, 0, 40, 0, 0, 0, 0, 0, 16, 24, 2, 66);
         Check.write(x, Check.row(2, 12));
-        row(x, 2, 12, 1, 13, 1, 13, 0, 12, 0, 1, 14);
+        check.row(x, 2, 12, 1, 13, 1, 13, 0, 12, 0, 1, 14);
         due("row: greatest cost, of the first", x.count(7), 2);
         OverflowRows y = new OverflowRows();
         Check.write(y, Check.row(1, 38) + ";" + Check.row(2, 30));
         // 8 + 3 * 9 = 35 on page 0; its 8 letters on page 1; the head of 2 on page 1, too.
-        row(y, 1, 38, 0, 0, 0, 0, 0, 6, 4, 2, 44);
-        row(y, 2, 30, 1, 1, 1, 1, 0, 6, 3, 2, 35);
+        check.row(y, 1, 38, 0, 0, 0, 0, 0, 6, 4, 2, 44);
+        check.row(y, 2, 30, 1, 1, 1, 1, 0, 6, 3, 2, 35);
         Check.write(y, "1=");
         Check.write(y, Check.row(2, 40));
         // The old row 2 goes first; page 0 has room for four pieces of 9 cells.
-        row(y, 2, 40, 1, 1, 1, 1, 0, 6, 5, 3, 47);
+        check.row(y, 2, 40, 1, 1, 1, 1, 0, 6, 5, 3, 47);
         due("row: greatest cost", y.count(7), 3);
     }
 
@@ -144,23 +120,23 @@ public final class LooksTest {
 
     private static void promises10And11() {
         OverflowRows x = moved();
-        page(x, 0, 1, 4, 2, 1, 1, 0);
-        page(x, 1, 17, 2, 2, 0, 0, 0);
-        page(x, 2, 40, 0, 0, 0, 0, 0);
-        slot(x, 0, 0, 1, 1, 18);
-        slot(x, 0, 2, 3, 3, 1);
-        slot(x, 0, 3, 2, 3, 2);
-        slot(x, 1, 0, 1, 4, 18);
-        slot(x, 1, 1, 1, 3, 5);
+        check.page(x, 0, 1, 4, 2, 1, 1, 0);
+        check.page(x, 1, 17, 2, 2, 0, 0, 0);
+        check.page(x, 2, 40, 0, 0, 0, 0, 0);
+        check.slot(x, 0, 0, 1, 1, 18);
+        check.slot(x, 0, 2, 3, 3, 1);
+        check.slot(x, 0, 3, 2, 3, 2);
+        check.slot(x, 1, 0, 1, 4, 18);
+        check.slot(x, 1, 1, 1, 3, 5);
         x.delete(1);
-        page(x, 0, 19, 4, 1, 1, 1, 1);
-        slot(x, 0, 0, 0, NONE, 0);
+        check.page(x, 0, 19, 4, 1, 1, 1, 1);
+        check.slot(x, 0, 0, 0, NONE, 0);
         due("slot: of a gap, what 3", x.slot(0, 0, 3), BAD_VALUE);
         x.delete(3);
-        page(x, 0, 22, 2, 1, 0, 0, 1);
+        check.page(x, 0, 22, 2, 1, 0, 0, 1);
         due("slot: gone", x.slot(0, 2, 0), NO_SUCH);
         x.delete(2);
-        page(x, 0, 40, 0, 0, 0, 0, 0);
+        check.page(x, 0, 40, 0, 0, 0, 0, 0);
         int[] noPages = {-1, 10, Integer.MIN_VALUE, Integer.MAX_VALUE};
         for (int page : noPages) {
             due("page(" + page + ", 0)", x.page(page, 0), NO_SUCH);
@@ -181,16 +157,16 @@ public final class LooksTest {
     private static void promise12() {
         OverflowRows x = moved();
         Check.put(x, "hello");
-        counts(x, 4, 2, 1, 1, 400 - 39 - 23, 6, 52, 3, 3, 8, 5, 6);
+        check.counts(x, 4, 2, 1, 1, 400 - 39 - 23, 6, 52, 3, 3, 8, 5, 6);
         due("count(-1)", x.count(-1), BAD_VALUE);
         due("count(12)", x.count(12), BAD_VALUE);
         due("count(great)", x.count(Integer.MAX_VALUE), BAD_VALUE);
         x.delete(1);
         x.delete(2);
         x.delete(3);
-        counts(x, 1, 1, 0, 0, 382, 1, 16, 1);
+        check.counts(x, 1, 1, 0, 0, 382, 1, 16, 1);
         x.delete(4);
-        counts(x, 0, 0, 0, 0, 400, 0, 0, NONE);
+        check.counts(x, 0, 0, 0, 0, 400, 0, 0, NONE);
     }
 
     private static void promise13() {
