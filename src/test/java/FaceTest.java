@@ -1,3 +1,5 @@
+import com.sun.management.ThreadMXBean;
+import java.lang.management.ManagementFactory;
 import java.lang.reflect.Constructor;
 import java.lang.reflect.Field;
 import java.lang.reflect.Method;
@@ -23,6 +25,7 @@ public final class FaceTest {
         methods();
         constants();
         room();
+        roomOfAllCalls();
         check.finish();
     }
 
@@ -84,6 +87,45 @@ public final class FaceTest {
 
     private static int constant(String name) throws Exception {
         return OverflowRows.class.getField(name).getInt(null);
+    }
+
+    /** All calls of a run live in one room, so it does not help them that what they made is dropped again. */
+    private static void roomOfAllCalls() {
+        ThreadMXBean threads = (ThreadMXBean) ManagementFactory.getThreadMXBean();
+        OverflowRows x = new OverflowRows();
+        everyCall(x, 0);
+        long before = threads.getCurrentThreadAllocatedBytes();
+        for (int round = 0; round < 64; round++) {
+            everyCall(x, round);
+        }
+        long bytes = threads.getCurrentThreadAllocatedBytes() - before;
+        check.due("some 1,400 calls make " + bytes + " bytes", bytes < 250_000 ? 1 : 0, 1);
+    }
+
+    private static void everyCall(OverflowRows x, int round) {
+        x.set(0, round % 17);
+        x.put(0x353D6162636465L);
+        x.put(0x3B373D6162636465L);
+        x.fault();
+        x.write();
+        x.put('a');
+        x.wipe();
+        x.append(5, 1);
+        x.most(round);
+        x.bestHead();
+        x.ifPacked(round % 17, round % 3);
+        x.pack();
+        x.save(round % 2);
+        x.delete(5);
+        x.restore(round % 2);
+        x.undo();
+        x.row(7, round % 10);
+        x.letter(7, 1);
+        x.piece(7, 0, 1);
+        x.page(0, round % 6);
+        x.slot(0, 0, 1);
+        x.count(round % 12);
+        x.key(0);
     }
 
     /** All that is ever made is kept, so what a much used object holds is what its run made. */

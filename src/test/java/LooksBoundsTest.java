@@ -393,6 +393,10 @@ public final class LooksBoundsTest {
         due("count(7) with a cheaper one behind", x.count(7), 3);
         x.delete(1);
         due("count(7) without the dear one", x.count(7), 1);
+        OverflowRows y = Made.moved(20);
+        due("count(7) with a head that has moved", y.count(7), 2);
+        y.delete(20);
+        due("count(7) without it", y.count(7), 1);
     }
 
     private static void countBadWhat() {

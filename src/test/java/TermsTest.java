@@ -21,6 +21,7 @@ public final class TermsTest {
         lowestEmptySlot();
         newSlotBehindAll();
         slotsOfAPage();
+        mostSlotsOfAPage();
         thirtyRows();
         keys();
         texts();
@@ -158,6 +159,13 @@ public final class TermsTest {
         due("letters of a head after set()", x.row(1, 6), 0);
         x.pack();
         due("letters of a head after pack()", x.row(1, 6), 16);
+        for (int head = 0; head <= 16; head++) {
+            OverflowRows y = Made.with(Check.row(1, 20));
+            y.set(HEAD, head);
+            y.append(1, 0);
+            due("letters of a head after append() with HEAD " + head, y.row(1, 6), head);
+            due("HEAD", y.count(8), head);
+        }
     }
 
     // ---- pages and slots
@@ -303,14 +311,37 @@ public final class TermsTest {
         due("slots without all", x.page(0, 1), 0);
         due("gaps without all", x.page(0, 5), 0);
         due("slot(0, 0, 1)", x.slot(0, 0, 1), NO_SUCH);
-        // Sixteen heads move and leave notes; of the other four each stays, with what is free by then.
-        OverflowRows y = Made.thirty();
-        y.set(HEAD, 16);
-        for (int key = 0; key < 16; key++) {
-            Made.write(y, Check.row(key, 16));
-            due("thing at home", y.slot(0, key, 0), 3);
+    }
+
+    /** All thirty rows are at home on page 0, and all their heads move; five pieces fill it then. */
+    private static void mostSlotsOfAPage() {
+        check.sentence("Pages, slots", "A page has as many slots as up to its last one that has a thing.");
+        OverflowRows x = Made.withSettings(16, 1);
+        Made.write(x, Check.row(0, 16) + ";" + Check.row(1, 16));
+        for (int key = 2; key < 30; key++) {
+            for (int row = 0; x.page(0, 0) < 2; row = 1 - row) {
+                Made.write(x, Check.row(row, x.row(row, 0) - 1));
+            }
+            Made.write(x, key + "=");
+            check.where(x, key, 0, key, 0, key);
+            Made.write(x, Check.row(key, x.page(0, 0) + 1));
+            due("thing at home of " + key, x.slot(0, key, 0), 3);
         }
-        check.page(y, 0, 16, 20, 4, 0, 16, 0);
+        Made.write(x, Check.row(0, 16) + ";" + Check.row(1, 16));
+        check.page(x, 0, 10, 30, 0, 0, 30, 0);
+        x.set(HEAD, 0);
+        Made.write(x, Check.row(29, 5));
+        check.page(x, 0, 0, 35, 0, 5, 30, 0);
+        for (int slot = 0; slot < 30; slot++) {
+            check.slot(x, 0, slot, 3, slot, 1);
+        }
+        for (int slot = 30; slot < 35; slot++) {
+            check.slot(x, 0, slot, 2, 29, 2);
+        }
+        due("slot(0, 35, 0)", x.slot(0, 35, 0), NO_SUCH);
+        x.delete(29);
+        check.page(x, 0, 11, 29, 0, 0, 29, 0);
+        due("count(2)", x.count(2), 29);
     }
 
     // ---- rows
@@ -737,5 +768,17 @@ public final class TermsTest {
         check.pieces(x, 50, new int[] {0, 3, 1});
         check.where(x, 99, 0, 4, 0, 4);
         check.pieces(x, 99, new int[] {0, 5, 5}, new int[] {0, 6, 1});
+        for (int head = 0; head <= 16; head++) {
+            OverflowRows y = Made.with(Check.row(1, 20), Check.row(2, 3));
+            int piece = 1 + head % 12;
+            y.set(HEAD, head);
+            y.set(PIECE, piece);
+            y.pack();
+            due("letters of the head with HEAD " + head, y.row(1, 6), head);
+            due("letters of a piece with PIECE " + piece, y.piece(1, 0, 2), Math.min(piece, 20 - head));
+            due("letters of a head of 3", y.row(2, 6), Math.min(head, 3));
+            due("HEAD", y.count(8), head);
+            due("PIECE", y.count(9), piece);
+        }
     }
 }
