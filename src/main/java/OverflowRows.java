@@ -253,9 +253,6 @@ public final class OverflowRows {
     }
 
     public int key(int place) {
-        if (place < 0 || place >= now.rows) {
-            return NO_SUCH;
-        }
         int before = 0;
         for (int key = 0; key < KEYS; key++) {
             if (now.rowOf(key) != NO) {
