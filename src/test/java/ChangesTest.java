@@ -228,7 +228,7 @@ public final class ChangesTest {
         check.where(x, 3, 0, 2, 2, 0);
         Check.write(x, Check.row(6, lettersAtHome));
         check.where(x, 6, 0, 1, 0, 1);
-        while (x.page(2, 0) > 0) {
+        for (int row = 0; row < 9 && x.page(2, 0) > 0; row++) {
             Check.write(x, x.page(2, 0) > 18 ? Check.row(7, 16) : Check.row(8, x.page(2, 0) - 2));
         }
         return x;

@@ -66,8 +66,8 @@ final class View {
 
     /** What the pad says shows only when it is written, and its rows need room for that. */
     private static void pad(StringBuilder view, OverflowRows x) {
-        while (x.count(0) > 0) {
-            x.delete(x.key(0));
+        for (int key = 0; key < 100; key++) {
+            x.delete(key);
         }
         line(view, "write", x.write());
         view.append(of(x));
