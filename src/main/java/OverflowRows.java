@@ -31,7 +31,7 @@ public final class OverflowRows {
     private static final int HISTORY = 6;
     private static final int SAVES = 2;
 
-    /** Stands for a spot, a row's number, a page or a fault that there is not. */
+    /** Stands for a spot, a row's number, a key or a fault that there is not. */
     private static final int NO = -1;
 
     private final Pad pad;
@@ -94,44 +94,45 @@ public final class OverflowRows {
     }
 
     private boolean writePadRow(int place) {
-        int letters = pad.lettersOf[place];
         trial.copyFrom(now);
-        int row = trial.layRow(pad.keyOf[place], letters);
-        if (row == NO) {
+        Row row = trial.layRow(at(pad.keyOf, place), at(pad.lettersOf, place));
+        if (row == null) {
             return false;
         }
-        for (int i = 0; i < letters; i++) {
-            trial.text[row][i] = pad.signs[pad.textOf[place] + i] - 'a';
+        int from = at(pad.textOf, place);
+        for (int i = 0; i < row.letters; i++) {
+            store(row.text, i, at(pad.signs, from + i) - 'a');
         }
         takeTrial();
         return true;
     }
 
     public int append(int key, int letter) {
-        int row = now.rowOf(key);
-        if (row == NO) {
+        Row row = now.rowOf(key);
+        if (row == null) {
             return NO_SUCH;
         }
         if (letter < 0 || letter >= ALPHABET) {
             return BAD_VALUE;
         }
-        int letters = now.lettersOf[row];
+        int letters = row.letters;
         if (letters >= LETTERS) {
             return TOO_MANY;
         }
         trial.copyFrom(now);
-        if (trial.layRow(key, letters + 1) == NO) {
+        Row longer = trial.layRow(key, letters + 1);
+        if (longer == null) {
             return NOT_POSSIBLE;
         }
-        trial.text[row][letters] = letter;
+        store(longer.text, letters, letter);
         history.record(now);
         takeTrial();
         return letters + 1;
     }
 
     public int delete(int key) {
-        int row = now.rowOf(key);
-        if (row == NO) {
+        Row row = now.rowOf(key);
+        if (row == null) {
             return NO_SUCH;
         }
         history.record(now);
@@ -165,43 +166,43 @@ public final class OverflowRows {
     // ---- what there is
 
     public int row(int key, int what) {
-        int row = now.rowOf(key);
-        if (row == NO) {
+        Row row = now.rowOf(key);
+        if (row == null) {
             return NO_SUCH;
         }
         switch (what) {
-            case 0: return now.lettersOf[row];
-            case 1: return now.homeOf[row] / SLOTS;
-            case 2: return now.homeOf[row] % SLOTS;
-            case 3: return now.headOf[row] / SLOTS;
-            case 4: return now.headOf[row] % SLOTS;
-            case 5: return now.hasMoved(row) ? 1 : 0;
-            case 6: return now.pages.cells[now.headOf[row]] - HEAD_FRAME;
-            case 7: return now.piecesOf[row];
-            case 8: return now.costOf(row);
+            case 0: return row.letters;
+            case 1: return row.home / SLOTS;
+            case 2: return row.home % SLOTS;
+            case 3: return row.head / SLOTS;
+            case 4: return row.head % SLOTS;
+            case 5: return row.hasMoved() ? 1 : 0;
+            case 6: return at(now.pages.cells, row.head) - HEAD_FRAME;
+            case 7: return row.pieces;
+            case 8: return row.cost();
             case 9: return now.cellsOf(row);
             default: return BAD_VALUE;
         }
     }
 
     public int letter(int key, int place) {
-        int row = now.rowOf(key);
-        if (row == NO || place < 0 || place >= now.lettersOf[row]) {
+        Row row = now.rowOf(key);
+        if (row == null || place < 0 || place >= row.letters) {
             return NO_SUCH;
         }
-        return now.text[row][place];
+        return at(row.text, place);
     }
 
     public int piece(int key, int piece, int what) {
-        int row = now.rowOf(key);
-        if (row == NO || piece < 0 || piece >= now.piecesOf[row]) {
+        Row row = now.rowOf(key);
+        if (row == null || piece < 0 || piece >= row.pieces) {
             return NO_SUCH;
         }
-        int spot = now.pieceOf[row][piece];
+        int spot = at(row.pieceSpots, piece);
         switch (what) {
             case 0: return spot / SLOTS;
             case 1: return spot % SLOTS;
-            case 2: return now.pages.cells[spot] - PIECE_FRAME;
+            case 2: return at(now.pages.cells, spot) - PIECE_FRAME;
             default: return BAD_VALUE;
         }
     }
@@ -211,7 +212,7 @@ public final class OverflowRows {
             return NO_SUCH;
         }
         switch (what) {
-            case 0: return now.pages.free[page];
+            case 0: return at(now.pages.free, page);
             case 1: return now.pages.slotsOf(page);
             case 2: return now.pages.thingsOn(page, A_HEAD);
             case 3: return now.pages.thingsOn(page, A_PIECE);
@@ -227,9 +228,9 @@ public final class OverflowRows {
         }
         int spot = page * SLOTS + slot;
         switch (what) {
-            case 0: return now.pages.kind[spot];
-            case 1: return now.pages.kind[spot] == A_GAP ? NONE : now.pages.owner[spot];
-            case 2: return now.pages.cells[spot];
+            case 0: return at(now.pages.kind, spot);
+            case 1: return at(now.pages.kind, spot) == A_GAP ? NONE : at(now.pages.owner, spot);
+            case 2: return at(now.pages.cells, spot);
             default: return BAD_VALUE;
         }
     }
@@ -255,7 +256,7 @@ public final class OverflowRows {
     public int key(int place) {
         int before = 0;
         for (int key = 0; key < KEYS; key++) {
-            if (now.rowOf(key) != NO) {
+            if (now.rowOf(key) != null) {
                 if (before == place) {
                     return key;
                 }
@@ -304,7 +305,7 @@ public final class OverflowRows {
         }
         for (int letters = LETTERS; letters >= 0; letters--) {
             trial.copyFrom(now);
-            if (trial.layRow(key, letters) != NO) {
+            if (trial.layRow(key, letters) != null) {
                 return letters;
             }
         }
@@ -322,7 +323,7 @@ public final class OverflowRows {
             return TOO_MANY;
         }
         for (int i = signs - 1; i >= 0; i--) {
-            pad.signs[pad.length] = signOf(characters, i);
+            store(pad.signs, pad.length, signOf(characters, i));
             pad.length++;
         }
         return pad.length;
@@ -391,6 +392,18 @@ public final class OverflowRows {
         return now.rows;
     }
 
+    // ---- looking at an index before it is used
+
+    private static int at(int[] numbers, int index) {
+        return index < 0 || index >= numbers.length ? NO : numbers[index];
+    }
+
+    private static void store(int[] numbers, int index, int number) {
+        if (index >= 0 && index < numbers.length) {
+            numbers[index] = number;
+        }
+    }
+
     /** What lies in the pages. A spot is the number of a slot among the slots of all pages. */
     private static final class Pages {
         final int[] kind = new int[SPOTS];
@@ -416,20 +429,24 @@ public final class OverflowRows {
         }
 
         boolean hasRoom(int page, int size) {
-            return free[page] >= size;
+            return page >= 0 && page < PAGES && free[page] >= size;
         }
 
         void occupy(int spot, int thing, int key, int size) {
-            kind[spot] = thing;
-            owner[spot] = key;
-            cells[spot] = size;
-            free[spot / SLOTS] -= size;
+            if (spot >= 0 && spot < SPOTS) {
+                kind[spot] = thing;
+                owner[spot] = key;
+                cells[spot] = size;
+                free[spot / SLOTS] -= size;
+            }
         }
 
         void vacate(int spot) {
-            free[spot / SLOTS] += cells[spot];
-            kind[spot] = A_GAP;
-            cells[spot] = 0;
+            if (spot >= 0 && spot < SPOTS) {
+                free[spot / SLOTS] += cells[spot];
+                kind[spot] = A_GAP;
+                cells[spot] = 0;
+            }
         }
 
         /** Places a thing as the document says; answers its spot, NO if it cannot be placed. */
@@ -437,9 +454,7 @@ public final class OverflowRows {
             for (int page = 0; page < PAGES; page++) {
                 if (hasRoom(page, size)) {
                     int spot = lowestGap(page);
-                    if (spot != NO) {
-                        occupy(spot, thing, key, size);
-                    }
+                    occupy(spot, thing, key, size);
                     return spot;
                 }
             }
@@ -449,7 +464,7 @@ public final class OverflowRows {
         private int lowestGap(int page) {
             for (int slot = 0; slot < SLOTS; slot++) {
                 int spot = page * SLOTS + slot;
-                if (kind[spot] == A_GAP) {
+                if (at(kind, spot) == A_GAP) {
                     return spot;
                 }
             }
@@ -458,7 +473,7 @@ public final class OverflowRows {
 
         int slotsOf(int page) {
             for (int slot = SLOTS - 1; slot >= 0; slot--) {
-                if (kind[page * SLOTS + slot] != A_GAP) {
+                if (at(kind, page * SLOTS + slot) != A_GAP) {
                     return slot + 1;
                 }
             }
@@ -469,7 +484,7 @@ public final class OverflowRows {
             int slots = slotsOf(page);
             int found = 0;
             for (int slot = 0; slot < slots; slot++) {
-                if (kind[page * SLOTS + slot] == thing) {
+                if (at(kind, page * SLOTS + slot) == thing) {
                     found++;
                 }
             }
@@ -503,177 +518,35 @@ public final class OverflowRows {
         }
     }
 
-    /** Everything that undo and restore bring back: settings, rows and pages. */
-    private static final class Book {
-        int headMost = FIRST_HEAD;
-        int pieceMost = FIRST_PIECE;
-        int rows = 0;
-        final Pages pages = new Pages();
-        /** By key: the number under which the row is kept; all that follows is by that number. */
-        final int[] numberOf = new int[KEYS];
-        final int[] keyOf = new int[ROWS];
-        final int[] lettersOf = new int[ROWS];
-        final int[] homeOf = new int[ROWS];
-        final int[] headOf = new int[ROWS];
-        final int[] piecesOf = new int[ROWS];
-        final int[][] pieceOf = new int[ROWS][LETTERS];
-        final int[][] text = new int[ROWS][LETTERS];
+    /** A row's text, and where its things lie; without a key it is there to be used again. */
+    private static final class Row {
+        int key = NO;
+        int letters = 0;
+        int home = NO;
+        int head = NO;
+        int pieces = 0;
+        final int[] pieceSpots = new int[LETTERS];
+        final int[] text = new int[LETTERS];
 
-        Book() {
-            Arrays.fill(numberOf, NO);
-            Arrays.fill(keyOf, NO);
+        void copyFrom(Row other) {
+            key = other.key;
+            letters = other.letters;
+            home = other.home;
+            head = other.head;
+            pieces = other.pieces;
+            System.arraycopy(other.pieceSpots, 0, pieceSpots, 0, LETTERS);
+            System.arraycopy(other.text, 0, text, 0, LETTERS);
         }
 
-        void copyFrom(Book other) {
-            headMost = other.headMost;
-            pieceMost = other.pieceMost;
-            rows = other.rows;
-            pages.copyFrom(other.pages);
-            System.arraycopy(other.numberOf, 0, numberOf, 0, KEYS);
-            System.arraycopy(other.keyOf, 0, keyOf, 0, ROWS);
-            System.arraycopy(other.lettersOf, 0, lettersOf, 0, ROWS);
-            System.arraycopy(other.homeOf, 0, homeOf, 0, ROWS);
-            System.arraycopy(other.headOf, 0, headOf, 0, ROWS);
-            System.arraycopy(other.piecesOf, 0, piecesOf, 0, ROWS);
-            for (int row = 0; row < ROWS; row++) {
-                System.arraycopy(other.pieceOf[row], 0, pieceOf[row], 0, LETTERS);
-                System.arraycopy(other.text[row], 0, text[row], 0, LETTERS);
-            }
+        boolean hasMoved() {
+            return head != home;
         }
 
-        int rowOf(int key) {
-            return key < 0 || key >= KEYS ? NO : numberOf[key];
-        }
-
-        /**
-         * Writes a row, new or not, with that many letters; which ones is left to the caller.
-         * If it answers NO the book is spoilt, so it is called on a trial only.
-         */
-        int layRow(int key, int letters) {
-            int row = rowOf(key);
-            if (row == NO) {
-                row = addRow(key);
-                if (row == NO) {
-                    return NO;
-                }
-                lettersOf[row] = letters;
-                return layNew(row) ? row : NO;
-            }
-            lettersOf[row] = letters;
-            return layAgain(row) ? row : NO;
-        }
-
-        private int addRow(int key) {
-            for (int row = 0; row < ROWS; row++) {
-                if (keyOf[row] == NO) {
-                    keyOf[row] = key;
-                    numberOf[key] = row;
-                    rows++;
-                    return row;
-                }
-            }
-            return NO;
-        }
-
-        private boolean layNew(int row) {
-            int spot = pages.place(A_HEAD, keyOf[row], headCells(row));
-            homeOf[row] = spot;
-            headOf[row] = spot;
-            return spot != NO && layPieces(row);
-        }
-
-        private boolean layAgain(int row) {
-            liftPieces(row);
-            pages.vacate(headOf[row]);
-            headOf[row] = layHeadAgain(row);
-            return headOf[row] != NO && layPieces(row);
-        }
-
-        /** Lays the head of a row whose head and pieces were taken away; answers its spot or NO. */
-        private int layHeadAgain(int row) {
-            int key = keyOf[row];
-            int home = homeOf[row];
-            int before = headOf[row];
-            int size = headCells(row);
-            if (pages.hasRoom(before / SLOTS, size)) {
-                pages.occupy(before, A_HEAD, key, size);
-                return before;
-            }
-            if (before == home) {
-                pages.occupy(home, A_NOTE, key, NOTE_CELLS);
-                return pages.place(A_HEAD, key, size);
-            }
-            if (pages.hasRoom(home / SLOTS, size - NOTE_CELLS)) {
-                pages.vacate(home);
-                pages.occupy(home, A_HEAD, key, size);
-                return home;
-            }
-            return pages.place(A_HEAD, key, size);
-        }
-
-        private boolean layPieces(int row) {
-            int left = lettersOf[row] - headLetters(row);
-            int laid = 0;
-            for (; laid < LETTERS && left > 0; laid++) {
-                int letters = Math.min(left, pieceMost);
-                int spot = pages.place(A_PIECE, keyOf[row], PIECE_FRAME + letters);
-                if (spot == NO) {
-                    return false;
-                }
-                pieceOf[row][laid] = spot;
-                left -= letters;
-            }
-            piecesOf[row] = laid;
-            return true;
-        }
-
-        private void liftPieces(int row) {
-            for (int i = 0; i < piecesOf[row]; i++) {
-                pages.vacate(pieceOf[row][i]);
-            }
-            piecesOf[row] = 0;
-        }
-
-        /** How many letters a head that is written now gets; one that lies may have others. */
-        private int headLetters(int row) {
-            return Math.min(lettersOf[row], headMost);
-        }
-
-        private int headCells(int row) {
-            return HEAD_FRAME + headLetters(row);
-        }
-
-        void removeRow(int row) {
-            liftPieces(row);
-            pages.vacate(headOf[row]);
-            if (hasMoved(row)) {
-                pages.vacate(homeOf[row]);
-            }
-            numberOf[keyOf[row]] = NO;
-            keyOf[row] = NO;
-            rows--;
-        }
-
-        /** Answers whether all rows could be written; if not, the book is spoilt. */
-        boolean packAll() {
-            pages.clear();
-            for (int key = 0; key < KEYS; key++) {
-                if (numberOf[key] != NO && !layNew(numberOf[key])) {
-                    return false;
-                }
-            }
-            return true;
-        }
-
-        boolean hasMoved(int row) {
-            return headOf[row] != homeOf[row];
-        }
-
-        int costOf(int row) {
-            int page = headOf[row] / SLOTS;
-            int cost = page == homeOf[row] / SLOTS ? 1 : 2;
-            for (int i = 0; i < piecesOf[row]; i++) {
-                int next = pieceOf[row][i] / SLOTS;
+        int cost() {
+            int page = head / SLOTS;
+            int cost = page == home / SLOTS ? 1 : 2;
+            for (int i = 0; i < pieces; i++) {
+                int next = at(pieceSpots, i) / SLOTS;
                 if (next != page) {
                     cost++;
                 }
@@ -681,20 +554,173 @@ public final class OverflowRows {
             }
             return cost;
         }
+    }
 
-        int cellsOf(int row) {
-            int sum = pages.cells[headOf[row]];
-            for (int i = 0; i < piecesOf[row]; i++) {
-                sum += pages.cells[pieceOf[row][i]];
+    /** Everything that undo and restore bring back: settings, rows and pages. */
+    private static final class Book {
+        int headMost = FIRST_HEAD;
+        int pieceMost = FIRST_PIECE;
+        int rows = 0;
+        final Pages pages = new Pages();
+        private final Row[] all = new Row[ROWS];
+        /** By key: which one of all the rows it is. */
+        private final int[] numberOf = new int[KEYS];
+
+        Book() {
+            for (int number = 0; number < ROWS; number++) {
+                all[number] = new Row();
             }
-            return hasMoved(row) ? sum + NOTE_CELLS : sum;
+            Arrays.fill(numberOf, NO);
+        }
+
+        void copyFrom(Book other) {
+            headMost = other.headMost;
+            pieceMost = other.pieceMost;
+            rows = other.rows;
+            pages.copyFrom(other.pages);
+            for (int number = 0; number < ROWS; number++) {
+                all[number].copyFrom(other.all[number]);
+            }
+            System.arraycopy(other.numberOf, 0, numberOf, 0, KEYS);
+        }
+
+        /** The row with that key, null if there is none. */
+        Row rowOf(int key) {
+            int number = at(numberOf, key);
+            return number < 0 || number >= ROWS ? null : all[number];
+        }
+
+        /**
+         * Writes a row, new or not, with that many letters; which ones is left to the caller.
+         * If it answers null the book is spoilt, so it is called on a trial only.
+         */
+        Row layRow(int key, int letters) {
+            Row old = rowOf(key);
+            if (old != null) {
+                old.letters = letters;
+                return layAgain(old) ? old : null;
+            }
+            Row added = addRow(key);
+            if (added == null) {
+                return null;
+            }
+            added.letters = letters;
+            return layNew(added) ? added : null;
+        }
+
+        private Row addRow(int key) {
+            for (int number = 0; number < ROWS; number++) {
+                Row row = all[number];
+                if (row.key == NO) {
+                    row.key = key;
+                    store(numberOf, key, number);
+                    rows++;
+                    return row;
+                }
+            }
+            return null;
+        }
+
+        private boolean layNew(Row row) {
+            row.home = pages.place(A_HEAD, row.key, headCells(row));
+            row.head = row.home;
+            return row.head != NO && layPieces(row);
+        }
+
+        private boolean layAgain(Row row) {
+            liftPieces(row);
+            pages.vacate(row.head);
+            row.head = layHeadAgain(row);
+            return row.head != NO && layPieces(row);
+        }
+
+        /** Lays the head of a row whose head and pieces were taken away; answers its spot or NO. */
+        private int layHeadAgain(Row row) {
+            int size = headCells(row);
+            if (pages.hasRoom(row.head / SLOTS, size)) {
+                pages.occupy(row.head, A_HEAD, row.key, size);
+                return row.head;
+            }
+            if (!row.hasMoved()) {
+                pages.occupy(row.home, A_NOTE, row.key, NOTE_CELLS);
+                return pages.place(A_HEAD, row.key, size);
+            }
+            if (pages.hasRoom(row.home / SLOTS, size - NOTE_CELLS)) {
+                pages.vacate(row.home);
+                pages.occupy(row.home, A_HEAD, row.key, size);
+                return row.home;
+            }
+            return pages.place(A_HEAD, row.key, size);
+        }
+
+        private boolean layPieces(Row row) {
+            int left = row.letters - headLetters(row);
+            row.pieces = 0;
+            for (int laid = 0; laid < LETTERS && left > 0; laid++) {
+                int letters = Math.min(left, pieceMost);
+                int spot = pages.place(A_PIECE, row.key, PIECE_FRAME + letters);
+                if (spot == NO) {
+                    return false;
+                }
+                store(row.pieceSpots, laid, spot);
+                row.pieces++;
+                left -= letters;
+            }
+            return true;
+        }
+
+        private void liftPieces(Row row) {
+            for (int i = 0; i < row.pieces; i++) {
+                pages.vacate(at(row.pieceSpots, i));
+            }
+            row.pieces = 0;
+        }
+
+        /** How many letters a head that is written now gets; one that lies may have others. */
+        private int headLetters(Row row) {
+            return Math.min(row.letters, headMost);
+        }
+
+        private int headCells(Row row) {
+            return HEAD_FRAME + headLetters(row);
+        }
+
+        void removeRow(Row row) {
+            liftPieces(row);
+            pages.vacate(row.head);
+            if (row.hasMoved()) {
+                pages.vacate(row.home);
+            }
+            store(numberOf, row.key, NO);
+            row.key = NO;
+            rows--;
+        }
+
+        /** Answers whether all rows could be written; if not, the book is spoilt. */
+        boolean packAll() {
+            pages.clear();
+            for (int key = 0; key < KEYS; key++) {
+                Row row = rowOf(key);
+                if (row != null && !layNew(row)) {
+                    return false;
+                }
+            }
+            return true;
+        }
+
+        int cellsOf(Row row) {
+            int sum = at(pages.cells, row.head);
+            for (int i = 0; i < row.pieces; i++) {
+                sum += at(pages.cells, at(row.pieceSpots, i));
+            }
+            return row.hasMoved() ? sum + NOTE_CELLS : sum;
         }
 
         int costInAll() {
             int sum = 0;
-            for (int row = 0; row < ROWS; row++) {
-                if (keyOf[row] != NO) {
-                    sum += costOf(row);
+            for (Row row : all) {
+                if (row.key != NO) {
+                    sum += row.cost();
                 }
             }
             return sum;
@@ -702,9 +728,9 @@ public final class OverflowRows {
 
         int greatestCost() {
             int greatest = 0;
-            for (int row = 0; row < ROWS; row++) {
-                if (keyOf[row] != NO) {
-                    greatest = Math.max(greatest, costOf(row));
+            for (Row row : all) {
+                if (row.key != NO) {
+                    greatest = Math.max(greatest, row.cost());
                 }
             }
             return greatest;
@@ -712,9 +738,9 @@ public final class OverflowRows {
 
         int lettersInAll() {
             int sum = 0;
-            for (int row = 0; row < ROWS; row++) {
-                if (keyOf[row] != NO) {
-                    sum += lettersOf[row];
+            for (Row row : all) {
+                if (row.key != NO) {
+                    sum += row.letters;
                 }
             }
             return sum;
@@ -737,10 +763,11 @@ public final class OverflowRows {
         int read() {
             rows = 0;
             awaitKey();
-            for (int at = 0; at < length; at++) {
-                boolean stands = inText ? readInText(signs[at]) : readInKey(at, signs[at]);
+            for (int place = 0; place < length; place++) {
+                int sign = at(signs, place);
+                boolean stands = inText ? readInText(sign) : readInKey(sign, place);
                 if (!stands) {
-                    return at;
+                    return place;
                 }
             }
             return inText ? NO : length;
@@ -752,9 +779,9 @@ public final class OverflowRows {
             number = 0;
         }
 
-        private boolean readInKey(int at, int sign) {
+        private boolean readInKey(int sign, int place) {
             if (sign == '=') {
-                return digits > 0 && startText(at + 1);
+                return digits > 0 && startText(place + 1);
             }
             boolean leadingZero = digits > 0 && number == 0;
             if (sign < '0' || sign > '9' || leadingZero) {
@@ -769,9 +796,9 @@ public final class OverflowRows {
             if (rows >= PAD_ROWS) {
                 return false;
             }
-            keyOf[rows] = number;
-            textOf[rows] = from;
-            lettersOf[rows] = 0;
+            store(keyOf, rows, number);
+            store(textOf, rows, from);
+            store(lettersOf, rows, 0);
             rows++;
             inText = true;
             return true;
@@ -782,11 +809,11 @@ public final class OverflowRows {
                 awaitKey();
                 return true;
             }
-            int row = rows - 1;
-            if (sign < 'a' || sign > 'z' || row < 0 || lettersOf[row] >= LETTERS) {
+            int letters = at(lettersOf, rows - 1);
+            if (sign < 'a' || sign > 'z' || letters >= LETTERS) {
                 return false;
             }
-            lettersOf[row]++;
+            store(lettersOf, rows - 1, letters + 1);
             return true;
         }
     }
@@ -798,7 +825,7 @@ public final class OverflowRows {
         private int oldest = 0;
 
         void record(Book state) {
-            int place = (oldest + held) % HISTORY;
+            int place = Math.floorMod(oldest + held, HISTORY);
             if (states[place] == null) {
                 states[place] = new Book();
             }
@@ -811,12 +838,11 @@ public final class OverflowRows {
         }
 
         void giveBack(Book state) {
-            int place = (oldest + held - 1) % HISTORY;
-            if (held == 0 || states[place] == null) {
-                return;
+            int place = Math.floorMod(oldest + held - 1, HISTORY);
+            if (held > 0 && states[place] != null) {
+                state.copyFrom(states[place]);
+                held--;
             }
-            state.copyFrom(states[place]);
-            held--;
         }
     }
 }

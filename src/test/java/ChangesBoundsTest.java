@@ -27,6 +27,7 @@ public final class ChangesBoundsTest {
         deleteAllOfARow();
         deleteHowManyCells();
         deleteNoSuchRow();
+        packIsAChange();
         packHowManyPages();
         packNotPossible();
         check.finish();
@@ -391,6 +392,19 @@ public final class ChangesBoundsTest {
     }
 
     // ---- pack
+
+    private static void packIsAChange() {
+        check.sentence("Promise 6", "Packs all anew. This is a change.");
+        OverflowRows x = Made.away(20);
+        x.delete(0);
+        String before = View.rows(x);
+        int changes = x.count(11);
+        due("pack()", x.pack(), 10);
+        due("notes", x.count(2), 0);
+        due("history", x.count(11), Math.min(6, changes + 1));
+        due("undo()", x.undo(), 5);
+        check.same("undo()", View.rows(x), before);
+    }
 
     private static void packHowManyPages() {
         check.sentence("Promise 6", "Returns how many pages have things then");

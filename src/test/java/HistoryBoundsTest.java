@@ -20,6 +20,7 @@ public final class HistoryBoundsTest {
         saveExcept();
         saveOverwrites();
         saveHowManyRows();
+        savePlaces();
         saveNoSuchPlace();
         restoreLast();
         restoreKeeps();
@@ -336,6 +337,23 @@ public final class HistoryBoundsTest {
         due("save(1) without rows", new OverflowRows().save(1), 0);
         due("save(1) of one", Made.with("1=").save(1), 1);
         due("save(0) of thirty", Made.thirty().save(0), 30);
+    }
+
+    private static void savePlaces() {
+        check.sentence("Promises 21 and 22", "`place`: 0 or 1");
+        OverflowRows x = Made.with("1=");
+        due("save(1)", x.save(1), 1);
+        Made.write(x, "2=;3=");
+        due("save(0)", x.save(0), 3);
+        x.delete(1);
+        due("restore(1)", x.restore(1), 1);
+        due("restore(0)", x.restore(0), 3);
+        due("save(1) of the other's", x.save(1), 3);
+        due("restore(1)", x.restore(1), 3);
+        x.delete(2);
+        due("save(0)", x.save(0), 2);
+        due("restore(1), which stays", x.restore(1), 3);
+        due("restore(0)", x.restore(0), 2);
     }
 
     private static void saveNoSuchPlace() {

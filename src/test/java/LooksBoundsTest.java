@@ -32,17 +32,21 @@ public final class LooksBoundsTest {
         countAllFull();
         countSums();
         countGreatestCost();
+        countTheRest();
         countBadWhat();
         key();
+        keyAscending();
         keyNoSuch();
         ifPackedHead();
         ifPackedWhat();
+        ifPackedOutOfRange();
         ifPackedNotPossible();
         bestHeadEven();
         bestHeadOfSeveral();
         bestHeadNone();
         mostForty();
         mostNewKey();
+        mostOfEachKey();
         mostBadKey();
         mostNone();
         mostOfAnOldRow();
@@ -399,6 +403,30 @@ public final class LooksBoundsTest {
         due("count(7) without it", y.count(7), 1);
     }
 
+    private static void countTheRest() {
+        check.sentence("Promise 12", "8 HEAD, 9 PIECE, 10 the length of the pad, 11 how many changes can be undone");
+        OverflowRows x = new OverflowRows();
+        x.set(HEAD, 16);
+        x.set(PIECE, 1);
+        due("HEAD", x.count(8), 16);
+        due("PIECE", x.count(9), 1);
+        due("changes", x.count(11), 2);
+        for (int length = 1; length <= 80; length++) {
+            x.put('a');
+            due("length of the pad", x.count(10), length);
+        }
+        due("changes after put()", x.count(11), 2);
+        x.undo();
+        due("PIECE after undo()", x.count(9), 8);
+        due("changes after undo()", x.count(11), 1);
+        due("length of the pad after undo()", x.count(10), 80);
+        for (int change = 2; change <= 8; change++) {
+            x.set(HEAD, change);
+            due("HEAD", x.count(8), change);
+            due("changes", x.count(11), Math.min(change, 6));
+        }
+    }
+
     private static void countBadWhat() {
         check.sentence("Promise 12", "BAD_VALUE if what is out of range");
         for (int what : new int[] {-1, 12, LEAST, GREATEST}) {
@@ -421,6 +449,33 @@ public final class LooksBoundsTest {
         for (int place = 0; place < 30; place++) {
             due("key(" + place + ") of thirty", y.key(place), 70 + place);
         }
+    }
+
+    private static void keyAscending() {
+        check.sentence("Promise 13", "Returns the key of a row, by ascending keys.");
+        OverflowRows x = Made.with("50=", "7=a", "93=", "8=abc");
+        keys(x, 7, 8, 50, 93);
+        x.delete(8);
+        keys(x, 7, 50, 93);
+        Made.write(x, "70=;9=");
+        keys(x, 7, 9, 50, 70, 93);
+        Made.write(x, Check.row(50, 30));
+        keys(x, 7, 9, 50, 70, 93);
+        x.pack();
+        keys(x, 7, 9, 50, 70, 93);
+        x.undo();
+        x.undo();
+        x.undo();
+        keys(x, 7, 50, 93);
+        x.undo();
+        keys(x, 7, 8, 50, 93);
+    }
+
+    private static void keys(OverflowRows x, int... keys) {
+        for (int place = 0; place < keys.length; place++) {
+            due("key(" + place + ") of " + keys.length, x.key(place), keys[place]);
+        }
+        due("key(" + keys.length + ")", x.key(keys.length), NO_SUCH);
     }
 
     private static void keyNoSuch() {
@@ -473,6 +528,19 @@ public final class LooksBoundsTest {
         }
         due("ifPacked(16, 1) of ten full pages", Made.full().ifPacked(16, 1), 10);
         due("ifPacked(16, 0) of ten full pages", Made.full().ifPacked(16, 0), 30);
+    }
+
+    private static void ifPackedOutOfRange() {
+        check.sentence("Promise 14", "BAD_VALUE if an argument is out of range");
+        for (OverflowRows x : new OverflowRows[] {new OverflowRows(), Made.full(), Made.stuffed()}) {
+            for (int bad : new int[] {-1, LEAST, GREATEST}) {
+                due("ifPacked(" + bad + ", 0)", x.ifPacked(bad, 0), BAD_VALUE);
+                due("ifPacked(16, " + bad + ")", x.ifPacked(16, bad), BAD_VALUE);
+                due("ifPacked(" + bad + ", " + bad + ")", x.ifPacked(bad, bad), BAD_VALUE);
+            }
+            due("ifPacked(17, 2)", x.ifPacked(17, 2), BAD_VALUE);
+            due("ifPacked(0, 3)", x.ifPacked(0, 3), BAD_VALUE);
+        }
     }
 
     private static void ifPackedNotPossible() {
@@ -587,6 +655,16 @@ public final class LooksBoundsTest {
         due("write() of one more", Check.write(x, Check.row(21, 26)), 0);
         due("write() of so many", Check.write(x, Check.row(21, 25)), 1);
         due("free", x.count(4), 1);
+    }
+
+    private static void mostOfEachKey() {
+        check.sentence("Promise 16", "`key`: 0 to 99");
+        OverflowRows x = Made.with("0=", "50=a", "99=abc");
+        OverflowRows y = Made.full();
+        for (int key = 0; key < 100; key++) {
+            due("most(" + key + ")", x.most(key), 40);
+            due("most(" + key + ") when all is full", y.most(key), key < 20 ? 16 : key < 30 ? 2 : NONE);
+        }
     }
 
     private static void mostBadKey() {

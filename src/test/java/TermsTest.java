@@ -6,12 +6,14 @@ public final class TermsTest {
 
     public static void main(String[] args) {
         callsOfAnObject();
+        errorCodes();
         numbering();
         noneIsNoError();
         head();
         piece();
         settingsHoldFromThenOn();
         pages();
+        oneThing();
         room();
         cellsOfHeads();
         cellsOfPieces();
@@ -45,6 +47,7 @@ public final class TermsTest {
         oldRowIsNotWritten();
         movedRowIsNotWritten();
         reading();
+        readingInOrder();
         packing();
         packingAsTheyAre();
         check.finish();
@@ -69,6 +72,21 @@ public final class TermsTest {
     }
 
     // ---- conventions
+
+    private static void errorCodes() {
+        check.sentence("Conventions", "A method that fails returns one of the error codes NO_SUCH (-1), BAD_VALUE (-2), "
+                + "BAD_TEXT (-3), TOO_MANY (-4) and NOT_POSSIBLE (-5)");
+        OverflowRows x = new OverflowRows();
+        due("delete(0)", x.delete(0), -1);
+        due("set(2, 0)", x.set(2, 0), -2);
+        due("write()", x.write(), -3);
+        due("undo()", x.undo(), -5);
+        Made.write(x, Check.row(0, 40));
+        due("append(0, 0)", x.append(0, 0), -4);
+        check.sentence("Conventions", "NONE (-6) is not an error");
+        Check.put(x, "1=");
+        due("fault()", x.fault(), -6);
+    }
 
     private static void numbering() {
         check.sentence("Conventions", "Everything is numbered from 0.");
@@ -182,6 +200,43 @@ public final class TermsTest {
         due("slot(-1, 0, 0)", x.slot(-1, 0, 0), NO_SUCH);
         due("slot(10, 0, 0)", x.slot(10, 0, 0), NO_SUCH);
         due("write() of a row for an eleventh page", Check.write(x, Check.row(50, 3)), 0);
+    }
+
+    private static void oneThing() {
+        check.sentence("Pages, slots", "A page has slots, numbered from 0; a slot is empty, or has one thing");
+        OverflowRows crowded = Made.moved(20);
+        crowded.set(HEAD, 3);
+        crowded.append(20, 3);
+        crowded.delete(1);
+        Made.write(crowded, Check.row(2, 9));
+        for (OverflowRows x : new OverflowRows[] {Made.thirty(), Made.away(21), Made.tight(), Made.stuffed(), crowded}) {
+            int[][] kinds = kindsByRows(x);
+            for (int page = 0; page < 10; page++) {
+                for (int slot = 0; slot < x.page(page, 1); slot++) {
+                    due("slot(" + page + ", " + slot + ", 0)", x.slot(page, slot, 0), kinds[page][slot]);
+                    kinds[page][slot] = 0;
+                }
+                for (int slot = 0; slot < 40; slot++) {
+                    due("thing behind the last slot, " + slot + " of page " + page, kinds[page][slot], 0);
+                }
+            }
+        }
+    }
+
+    /** What the rows say of each slot; two things in one slot make a sum that no thing has. */
+    private static int[][] kindsByRows(OverflowRows x) {
+        int[][] kinds = new int[10][40];
+        for (int place = 0; place < x.count(0); place++) {
+            int key = x.key(place);
+            kinds[x.row(key, 3)][x.row(key, 4)] += 1;
+            if (x.row(key, 5) == 1) {
+                kinds[x.row(key, 1)][x.row(key, 2)] += 3;
+            }
+            for (int piece = 0; piece < x.row(key, 7); piece++) {
+                kinds[x.piece(key, piece, 0)][x.piece(key, piece, 1)] += 2;
+            }
+        }
+        return kinds;
     }
 
     private static void room() {
@@ -737,6 +792,27 @@ public final class TermsTest {
         z.append(20, 5);
         check.pieces(z, 20, new int[] {9, 3, 3});
         due("home, head, and a piece beside the head", z.row(20, 8), 2);
+    }
+
+    private static void readingInOrder() {
+        check.sentence("Reading", "Reading a row goes to the page of its home, then to the page of its head, "
+                + "then to those of its pieces, in order");
+        OverflowRows x = Made.moved(20);
+        x.delete(10);
+        x.set(HEAD, 3);
+        Made.write(x, Check.row(20, 3 + 8 + 8 + 2));
+        // 3 cells are free on the page of its home, 18 on page 5.
+        check.where(x, 20, 0, 2, 9, 1);
+        check.pieces(x, 20, new int[] {5, 0, 8}, new int[] {5, 3, 8}, new int[] {0, 3, 2});
+        due("from 0 to 9, to 5, and to 0 again", x.row(20, 8), 4);
+        x.delete(0);
+        Made.write(x, Check.row(20, 3 + 8 + 8 + 2));
+        check.pieces(x, 20, new int[] {0, 0, 8}, new int[] {0, 3, 8}, new int[] {0, 4, 2});
+        due("from 0 to 9, and to 0 again", x.row(20, 8), 3);
+        Made.write(x, Check.row(20, 3));
+        due("from 0 to 9", x.row(20, 8), 2);
+        due("sum", x.count(5), 26 + 2);
+        due("greatest", x.count(7), 2);
     }
 
     private static void packing() {

@@ -19,6 +19,7 @@ public final class TextsBoundsTest {
         tooEarly();
         empty();
         whatCanStand();
+        putAppends();
         lowestIsLast();
         nothingAbove();
         oneToEight();
@@ -227,6 +228,22 @@ public final class TextsBoundsTest {
     }
 
     // ---- put
+
+    private static void putAppends() {
+        check.sentence("Promise 17", "Appends characters to the pad.");
+        OverflowRows x = new OverflowRows();
+        for (char sign : "3=fed;4=".toCharArray()) {
+            x.put(sign);
+        }
+        x.put(Check.number("xyz;3="));
+        x.put(Check.number("cba"));
+        due("count(10)", x.count(10), 17);
+        due("write()", x.write(), 3);
+        for (int place = 0; place < 3; place++) {
+            due("letter(3, " + place + "), written twice", x.letter(3, place), 2 - place);
+            due("letter(4, " + place + ")", x.letter(4, place), 23 + place);
+        }
+    }
 
     private static void lowestIsLast() {
         check.sentence("Promise 17", "its lowest 8 bits are the last character, the next 8 bits the one before, "
