@@ -579,7 +579,11 @@ public final class OverflowRows {
             rows = other.rows;
             pages.copyFrom(other.pages);
             for (int number = 0; number < ROWS; number++) {
-                all[number].copyFrom(other.all[number]);
+                Row mine = all[number];
+                Row others = other.all[number];
+                if (mine != null && others != null) {
+                    mine.copyFrom(others);
+                }
             }
             System.arraycopy(other.numberOf, 0, numberOf, 0, KEYS);
         }
@@ -611,7 +615,7 @@ public final class OverflowRows {
         private Row addRow(int key) {
             for (int number = 0; number < ROWS; number++) {
                 Row row = all[number];
-                if (row.key == NO) {
+                if (row != null && row.key == NO) {
                     row.key = key;
                     store(numberOf, key, number);
                     rows++;
@@ -718,8 +722,9 @@ public final class OverflowRows {
 
         int costInAll() {
             int sum = 0;
-            for (Row row : all) {
-                if (row.key != NO) {
+            for (int key = 0; key < KEYS; key++) {
+                Row row = rowOf(key);
+                if (row != null) {
                     sum += row.cost();
                 }
             }
@@ -728,8 +733,9 @@ public final class OverflowRows {
 
         int greatestCost() {
             int greatest = 0;
-            for (Row row : all) {
-                if (row.key != NO) {
+            for (int key = 0; key < KEYS; key++) {
+                Row row = rowOf(key);
+                if (row != null) {
                     greatest = Math.max(greatest, row.cost());
                 }
             }
@@ -738,8 +744,9 @@ public final class OverflowRows {
 
         int lettersInAll() {
             int sum = 0;
-            for (Row row : all) {
-                if (row.key != NO) {
+            for (int key = 0; key < KEYS; key++) {
+                Row row = rowOf(key);
+                if (row != null) {
                     sum += row.letters;
                 }
             }
